@@ -812,20 +812,19 @@ public final class SeasonYard {
 
         /** The first law that fits a cell by the places noted, or NONE. */
         private int firstFitting(int c) {
-            int near = nextTo(c);
             for (int k = 0; k < laws.size && k < MOST_RULES; k++) {
-                if (fits(k, c, near)) {
+                if (fits(k, c)) {
                     return k;
                 }
             }
             return NONE;
         }
 
-        private boolean fits(int k, int c, int near) {
+        private boolean fits(int k, int c) {
             int from = laws.a[k];
             int over = laws.b[k];
             return isSeason(from) && isIn(over, 0, BARE) && (places[over] >>> c & 1) != 0
-                    && Integer.bitCount(places[from] & near) >= laws.n[k];
+                    && Integer.bitCount(places[from] & nextTo(c)) >= laws.n[k];
         }
 
         /** A bit for each cell that is next to one without a wall between. */
@@ -1369,7 +1368,7 @@ public final class SeasonYard {
         }
 
         /** Calls itself at most LUCK_WEEKS deep, as the weeks become fewer. */
-        static long goodWays(int crop, int stage, int season, int yards, int odds, int weeks) {
+        private static long goodWays(int crop, int stage, int season, int yards, int odds, int weeks) {
             if (weeks <= 0 || weeks > LUCK_WEEKS) {
                 return 0;
             }
