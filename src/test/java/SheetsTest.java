@@ -187,6 +187,13 @@ public final class SheetsTest {
         fill(x, 3, 0, values);
         due("42 thirteen", x.read(3, 0, 0, 13), 13);
         due("42 PURSE", x.rule(3), 86);
+        x.sheet(3, 0, 40);
+        x.put(3, 38, 1);
+        x.put(3, 39, 2);
+        x.fund(2);
+        due("42 the last three of forty, the whole purse", x.read(3, 0, 37, 1), 1);
+        due("42 PURSE", x.rule(3), 0);
+        due("42 not the last two of forty", x.read(3, 0, 38, 1), 0);
     }
 
     private static void readRefused() {
