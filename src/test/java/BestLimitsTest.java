@@ -13,6 +13,8 @@ public final class BestLimitsTest {
         planRefused();
         mostAtTheBounds();
         mostAlike();
+        mostLaysThreeYards();
+        mostLaysASeason();
         fenceAtTheBounds();
         blameAtTheBounds();
         blameRefused();
@@ -163,6 +165,27 @@ public final class BestLimitsTest {
         SeasonYard x = Checks.yard("lay 0 2 9;sow 0 rose;lay 1 2 9;sow 1 rose;");
         due("28 not in a cell that is ripe", x.most(2, 0), 2);
         due("28 two", x.most(2, 1), 2);
+    }
+
+    /** Summer goes one cell a WEEK from the first on: spring laid now must last till it comes, in the third WEEK, not the fourth. */
+    private static void mostLaysThreeYards() {
+        String row = "size 4 4;lay 0 2 9;lay 1 1 9;lay 2 1 9;rule 2 1 1;";
+        SeasonYard x = Checks.yard(row + "sow 3 bean;");
+        due("28 not yet", x.most(2, 1), 0);
+        due("28 the third YARD", x.most(3, 1), 1);
+        due("28 the third YARD", x.most(3, 0), 31);
+        x = Checks.yard(row + "lay 3 1 9;sow 7 bean;");
+        due("28 no fourth YARD", x.most(12, 1), 0);
+    }
+
+    /** Bare ground would bring all three seasons; each of them laid stops the others, and so does what lies. */
+    private static void mostLaysASeason() {
+        String round = "size 3 3;lay 1 1 1;lay 3 2 2;lay 5 3 3;rule 1 4 1;rule 2 4 1;rule 3 4 1;sow 4 wheat;";
+        SeasonYard x = Checks.yard(round);
+        due("25 bare ground brings it", x.when(4), 3);
+        x = Checks.yard(round + "lay 4 0 9;");
+        due("28 no laying brings it", x.most(12, 1), 0);
+        due("28 no laying brings it", x.most(12, 0), 0);
     }
 
     private static final String CREEPING = "size 4 4;lay 15 2 9;lay 14 0 9;lay 13 0 9;sow 13 moss;rule 2 0 1;";

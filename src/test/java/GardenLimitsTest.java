@@ -439,6 +439,16 @@ public final class GardenLimitsTest {
         x.week(1);
         due("25 STATE behind it", x.when(0), -2);
         due("25 BAD", x.when(4), -1);
+        SeasonYard y = Checks.yard("size 4 4;");
+        for (int c = 0; c < 16; c++) {
+            y.store(2, 9);
+            y.fund(9);
+            y.lay(c, 2, 2);
+            y.sow(c, 3);
+        }
+        for (int c = 0; c < 16; c++) {
+            due("25 all in one WEEK", y.when(c), 2);
+        }
         x.sow(0, 0);
         due("25 waits for ever", x.when(0), -4);
     }

@@ -1,3 +1,6 @@
+import java.util.ArrayList;
+import java.util.List;
+
 /** Promises 2 to 5: each bound that the document names for the tape, its tokens, its lines, its faults. */
 public final class TextBoundsTest {
     /** Each line with the bounds of its numbers, told low, high one behind the other; K is a crop. */
@@ -16,6 +19,7 @@ public final class TextBoundsTest {
         eachByte();
         figures();
         blanks();
+        names();
         tokensOutOfPlace();
         numbersAtTheirBounds();
         keysToldTwice();
@@ -189,6 +193,37 @@ public final class TextBoundsTest {
         Checks.refused("moss 0;", 0, 2);
     }
 
+    /** Each name with one letter of it another one, one less, one more, is no name of a line or crop. */
+    private static void names() {
+        for (String name : new String[] {"size", "lay", "sow", "own", "wall", "rule", "stock", "purse"}) {
+            for (String other : others(name)) {
+                Checks.refused(other + " 1 1 1;", 0, 2);
+            }
+        }
+        for (String crop : CROPS) {
+            taken("sow 0 " + crop + ";", 1);
+            for (String other : others(crop)) {
+                Checks.refused("sow 0 " + other + ";", 6, 2);
+            }
+        }
+    }
+
+    private static final String[] CROPS = {"wheat", "rye", "moss", "rose", "bean"};
+
+    private static List<String> others(String name) {
+        List<String> all = new ArrayList<>();
+        for (int i = 0; i < name.length(); i++) {
+            char next = (char) (name.charAt(i) == 'z' ? 'a' : name.charAt(i) + 1);
+            all.add(name.substring(0, i) + next + name.substring(i + 1));
+            all.add(name.substring(0, i) + name.substring(i + 1));
+            all.add(name.substring(0, i) + name.charAt(i) + name.substring(i));
+        }
+        all.add("a" + name);
+        all.add(name + "a");
+        all.add(name + name);
+        return all;
+    }
+
     /** In each line at each token: the end, and what is another token or none. */
     private static void tokensOutOfPlace() {
         for (String line : LINES) {
@@ -325,10 +360,15 @@ public final class TextBoundsTest {
             int high = 2 + size / 3;
             String told = "size " + wide + " " + high + ";";
             for (int c = 0; c < 16; c++) {
-                for (String line : new String[] {"lay " + c + " 0 1;", "sow " + c + " rye;", "own " + c + " 0;"}) {
+                String[] lines = {"lay " + c + " 3 9;", "sow " + c + " rye;", "own " + c + " 2;"};
+                int[] want = {9 - 4, 1, -4 + 20};
+                for (int i = 0; i < lines.length; i++) {
+                    String line = lines[i];
                     if (c < wide * high) {
                         taken(told + line, 2);
                         taken(line + told, 2);
+                        SeasonYard x = Checks.yard(told + line);
+                        due("4 lay, sow, own", x.cell(c, 1) + x.cell(c, 2) + 10 * x.cell(c, 4), want[i]);
                     } else {
                         Checks.refused(told + line, (told + line).length(), 6);
                         Checks.refused(line + told + " ", (told + line).length() + 1, 6);
