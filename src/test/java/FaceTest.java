@@ -22,7 +22,9 @@ public final class FaceTest {
         methods();
         fields();
         inside();
-        words(Files.readString(Path.of("src/main/java/SeasonYard.java")));
+        String source = Files.readString(Path.of("src/main/java/SeasonYard.java"));
+        words(source);
+        lengths(source.split("\n"));
         Checks.finish("FaceTest");
     }
 
@@ -101,5 +103,22 @@ public final class FaceTest {
         for (int i = 0; i < source.length(); i++) {
             due("signs of 1 to 127", source.charAt(i) < 128);
         }
+    }
+
+    /** Methods begin and end at the same indent: that of the class's own ones, or of a class inside. */
+    private static void lengths(String[] lines) {
+        int methods = 0;
+        for (int from = 0; from < lines.length; from++) {
+            Matcher head = Pattern.compile("(    |        )[^ /*].*\\) \\{").matcher(lines[from]);
+            if (head.matches() && !lines[from].matches(" *(if|for|while|switch|do|else)\\b.*")) {
+                int to = from;
+                while (to < lines.length && !lines[to].equals(head.group(1) + "}")) {
+                    to++;
+                }
+                methods++;
+                due("a short method: " + lines[from].trim(), to - from < 60);
+            }
+        }
+        due("methods are found", methods > 100);
     }
 }
